@@ -232,8 +232,8 @@ public final class SpeculativeScheduler {
         int taskThreshold = 75;
         int nodeThreshold = 50;
 
-        void copyFrom(Settings other) {
-            policy = other.policy;
+        void copyWithPolicy(Settings other, int itsPolicy) {
+            policy = itsPolicy;
             cap = other.cap;
             minimumAge = other.minimumAge;
             taskThreshold = other.taskThreshold;
@@ -473,8 +473,7 @@ public final class SpeculativeScheduler {
         int now = 0;
 
         void startAfresh(Cluster other, int policy) {
-            settings.copyFrom(other.settings);
-            settings.policy = policy;
+            settings.copyWithPolicy(other.settings, policy);
             nodes.copyUnused(other.nodes);
             tasks.copyUnused(other.tasks);
             attempts.clear();
