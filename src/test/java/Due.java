@@ -14,6 +14,13 @@ final class Due {
         }
     }
 
+    void same(String call, String got, String want) {
+        if (!got.equals(want)) {
+            wrong++;
+            System.out.println(place + ": " + call + " answered\n" + got + "\n, due is\n" + want);
+        }
+    }
+
     boolean isClean() {
         return wrong == 0;
     }

@@ -1,9 +1,5 @@
 /** The promises by number: ordinary inputs, the edges that the document names and wrong inputs. */
-public final class PromisesTest {
-    private static final int LEAST = Integer.MIN_VALUE;
-    private static final int GREATEST = Integer.MAX_VALUE;
-    private static final Due DUE = new Due();
-
+public final class PromisesTest extends Cases {
     public static void main(String[] args) {
         newObject();
         addNode();
@@ -28,17 +24,6 @@ public final class PromisesTest {
         simulationUsesThePresent();
         simulationAfterSimulation();
         DUE.end();
-    }
-
-    private static SpeculativeScheduler cluster(int[] speeds, int... works) {
-        SpeculativeScheduler x = new SpeculativeScheduler();
-        for (int speed : speeds) x.addNode(speed, 1);
-        for (int work : works) x.addTask(work);
-        return x;
-    }
-
-    private static int[] speeds(int... speeds) {
-        return speeds;
     }
 
     private static void newObject() {

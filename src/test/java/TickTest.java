@@ -2,9 +2,7 @@
  * The steps of a tick (promise 10), second attempts (promises 20 and 27) and the choice of the
  * straggler (promise 26).
  */
-public final class TickTest {
-    private static final Due DUE = new Due();
-
+public final class TickTest extends Cases {
     public static void main(String[] args) {
         startingOrder();
         noSpeculation();
@@ -19,25 +17,19 @@ public final class TickTest {
         cap();
         slowNode();
         slowNodeUnderNaive();
+        slowNodeIsPassedOver();
         waitingTaskFirst();
+        waitingTaskThenSecondAttempt();
+        evaluatedAnewUnderNaive();
+        evaluatedAnewUnderLate();
+        secondAttemptWhereTheFirstWasLost();
+        worksInItsFirstTick();
         bothFinishAtOnce();
         secondAttemptWins();
         firstAttemptLost();
         allSlotsTaken();
         twoHundredAttempts();
         DUE.end();
-    }
-
-    private static SpeculativeScheduler cluster(int policy, int[] speeds, int... works) {
-        SpeculativeScheduler x = new SpeculativeScheduler();
-        x.setPolicy(policy);
-        for (int speed : speeds) x.addNode(speed, 1);
-        for (int work : works) x.addTask(work);
-        return x;
-    }
-
-    private static int[] speeds(int... speeds) {
-        return speeds;
     }
 
     private static void startingOrder() {
@@ -266,6 +258,74 @@ public final class TickTest {
         x.tick(1);
         DUE.is("attemptTask(2)", x.attemptTask(2), 2);
         DUE.is("isSpeculative(2)", x.isSpeculative(2), 0);
+    }
+
+    private static void waitingTaskThenSecondAttempt() {
+        DUE.at("the last waiting task, then a second attempt");
+        SpeculativeScheduler x = cluster(2, speeds(100, 10), 10000, 10000);
+        x.tick(5);
+        x.addNode(90, 2);
+        x.addTask(500);
+        x.tick(1);
+        DUE.is("attemptCount()", x.attemptCount(), 4);
+        DUE.is("attemptTask(2)", x.attemptTask(2), 2);
+        DUE.is("attemptTask(3)", x.attemptTask(3), 1);
+        DUE.is("isSpeculative(3)", x.isSpeculative(3), 1);
+    }
+
+    private static void slowNodeIsPassedOver() {
+        DUE.at("a slow node is passed over");
+        SpeculativeScheduler x = slowCluster(2);
+        x.addNode(30, 1);
+        x.tick(4);
+        DUE.is("isSlowNode(2), with a free slot", x.isSlowNode(2), 1);
+        DUE.is("attemptCount()", x.attemptCount(), 4);
+        DUE.is("attemptNode(3): the next node is visited", x.attemptNode(3), 3);
+    }
+
+    private static void evaluatedAnewUnderNaive() {
+        DUE.at("evaluated anew for each slot, under NAIVE");
+        SpeculativeScheduler x = cluster(1, speeds(0, 0, 65), 1000, 1000, 1000);
+        x.tick(10);
+        DUE.is("straggler(): 200 is less than 650 / 3", x.straggler(), 0);
+        x.addNode(50, 2);
+        x.tick(1);
+        DUE.is("attemptCount(): 200 is not less than 650 / 4", x.attemptCount(), 4);
+    }
+
+    private static void evaluatedAnewUnderLate() {
+        DUE.at("evaluated anew for each slot, under LATE");
+        SpeculativeScheduler x = cluster(2, speeds(40, 41, 100), 1000, 1000, 1000);
+        x.tick(3);
+        DUE.is("straggler(): 40 and 41 are less than 60 * 75 / 100", x.straggler(), 0);
+        x.addNode(50, 2);
+        x.tick(1);
+        DUE.is("attemptCount(): 41 is not less than 45 * 75 / 100", x.attemptCount(), 4);
+    }
+
+    private static void secondAttemptWhereTheFirstWasLost() {
+        DUE.at("it does not run on this node, but a lost one did");
+        SpeculativeScheduler x = cluster(2, speeds(10, 100), 10000, 10000);
+        x.setThresholds(75, 1);
+        x.tick(1);
+        x.failNode(0);
+        x.addNode(20, 1);
+        x.tick(3);
+        DUE.is("attemptNode(2): task 0 again", x.attemptNode(2), 2);
+        x.repairNode(0);
+        x.tick(1);
+        DUE.is("attemptTask(3)", x.attemptTask(3), 0);
+        DUE.is("attemptNode(3): back on node 0", x.attemptNode(3), 0);
+    }
+
+    private static void worksInItsFirstTick() {
+        DUE.at("an attempt works in the tick that starts it");
+        SpeculativeScheduler x = cluster(2, speeds(100), 100, 50);
+        DUE.is("tick(1)", x.tick(1), 1);
+        DUE.is("finishTime(0)", x.finishTime(0), 1);
+        x.setSpeed(0, 10);
+        x.tick(1);
+        DUE.is("remainingTime(1): its age is 1, 800 * 1 / 200", x.remainingTime(1), 4);
     }
 
     /** Attempt 0 on node 0 has done 20 of 100, attempt 1 on node 1 has done 10. */
