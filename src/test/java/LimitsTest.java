@@ -83,6 +83,9 @@ public final class LimitsTest extends Cases {
         x.tick(2);
         DUE.is("attemptCount()", x.attemptCount(), 32);
         for (int i = 0; i < 8; i++) DUE.is("runningOn(" + i + ")", x.runningOn(i), 4);
+        DUE.is("straggler(): tasks 0 to 7 have two attempts", x.straggler(), 8);
+        x.setPolicy(1);
+        DUE.is("straggler() under NAIVE", x.straggler(), -6);
         DUE.is("tick(98)", x.tick(98), 24);
         DUE.is("wastedWork(): 8 attempts of 99 ticks", x.wastedWork(), 79200);
     }

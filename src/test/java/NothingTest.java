@@ -6,7 +6,9 @@ public final class NothingTest extends Cases {
         nothingLeftToDo();
         nothingToLose();
         progressAtMost1000();
+        progressAtAgeZero();
         rateAtAgeZero();
+        meanRateWithAgesOfZero();
         onlyAgesOfZero();
         remainingTimeWithoutProgress();
         remainingTimeWithSomeProgress();
@@ -80,6 +82,39 @@ public final class NothingTest extends Cases {
         DUE.is("progress(3): 9999 of 10000", x.progress(3), 999);
         DUE.is("attemptState(3): it still runs", x.attemptState(3), 1);
         DUE.is("remainingTime(3): 1 * 100 / 999", x.remainingTime(3), 0);
+    }
+
+    /** A slot behind the newcomer, attempt 2: of what is the mean that the slot's visit sees? */
+    private static void addNewcomer(SpeculativeScheduler x) {
+        x.addNode(10, 2);
+        x.addTask(1000);
+        x.tick(1);
+        DUE.is("attemptTask(2)", x.attemptTask(2), 2);
+    }
+
+    private static void progressAtAgeZero() {
+        DUE.at("the progress of an attempt that has done no work yet");
+        for (int progress = 602; progress <= 603; progress++) {
+            SpeculativeScheduler x = cluster(1, speeds(0, 100), 1000, 1000);
+            x.tick(6);
+            x.setSpeed(1, progress - 600);
+            x.tick(1);
+            addNewcomer(x);
+            // 200 is not less than (0 + 602 + 0) / 3, but less than (0 + 603 + 0) / 3.
+            DUE.is("attemptCount() with " + progress, x.attemptCount(), progress == 602 ? 3 : 4);
+        }
+    }
+
+    private static void meanRateWithAgesOfZero() {
+        DUE.at("the mean rate with a rate of 0 at the age of 0");
+        for (int threshold = 75; threshold <= 76; threshold++) {
+            SpeculativeScheduler x = cluster(speeds(30, 90), 1000, 1000);
+            x.setThresholds(threshold, 50);
+            x.tick(4);
+            addNewcomer(x);
+            // 3000 is not less than (30 + 90 + 0) / 3 * 75, but less than that * 76.
+            DUE.is("attemptCount() with " + threshold, x.attemptCount(), threshold == 75 ? 3 : 4);
+        }
     }
 
     private static void rateAtAgeZero() {

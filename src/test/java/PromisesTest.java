@@ -17,12 +17,15 @@ public final class PromisesTest extends Cases {
         progress();
         remainingTime();
         nodeScore();
+        nodeScoreOfKilledOnes();
         isSlowNode();
         runningOn();
         wastedWork();
         simulatedMakespan();
         simulationUsesThePresent();
         simulationAfterSimulation();
+        simulationKeepsNoProgress();
+        simulationKeepsNoScore();
         DUE.end();
     }
 
@@ -323,6 +326,20 @@ public final class PromisesTest extends Cases {
         DUE.is("nodeScore(0): 142 / 8, lost ones too", x.nodeScore(0), 17);
     }
 
+    private static void nodeScoreOfKilledOnes() {
+        DUE.at("promise 23, attempts of all states count");
+        SpeculativeScheduler x = cluster(speeds(10, 10), 100);
+        x.setLimits(2, 0);
+        x.setThresholds(200, 1);
+        x.tick(2);
+        x.setSpeed(0, 79);
+        x.setSpeed(1, 90);
+        x.tick(1);
+        DUE.is("attemptState(0)", x.attemptState(0), 3);
+        DUE.is("nodeScore(0): 99 / 3, killed ones too", x.nodeScore(0), 33);
+        DUE.is("nodeScore(1): 100 / 2", x.nodeScore(1), 50);
+    }
+
     private static void isSlowNode() {
         DUE.at("promise 24");
         SpeculativeScheduler x = cluster(speeds(25, 75, 50), 10000, 10000);
@@ -426,6 +443,27 @@ public final class PromisesTest extends Cases {
         DUE.is("time() stays", x.time(), 20);
         DUE.is("attemptCount() stays", x.attemptCount(), 3);
         DUE.is("makespan() stays", x.makespan(), 8);
+    }
+
+    /** When tasks 2 and 3 end at 4, task 4 starts on node 2, and then node 3 has a free slot. */
+    private static void simulationKeepsNoProgress() {
+        DUE.at("promise 29, no progress or rate of an earlier simulation");
+        SpeculativeScheduler x = cluster(speeds(1, 100, 100, 100), 1000, 1000, 400, 400, 1000);
+        SpeculativeScheduler y = cluster(speeds(40, 100, 100, 100), 1000, 1000, 400, 400, 1000);
+        for (int i = 0; i < 3; i++) {
+            DUE.is("simulatedMakespan(1): task 0 again from 6 on", x.simulatedMakespan(1), 16);
+            DUE.is("simulatedMakespan(2): task 0 again from 5 on", y.simulatedMakespan(2), 15);
+        }
+    }
+
+    private static void simulationKeepsNoScore() {
+        DUE.at("promise 29, no score of the attempts so far");
+        SpeculativeScheduler x = cluster(speeds(100, 2, 1), 1000, 300, 5);
+        x.tick(5);
+        x.setSpeed(2, 50);
+        DUE.is("isSlowNode(2): of the past", x.isSlowNode(2), 1);
+        DUE.is("simulatedMakespan(2): node 2 helps from 3 on", x.simulatedMakespan(2), 10);
+        DUE.is("isSlowNode(2) stays", x.isSlowNode(2), 1);
     }
 
     private static void simulationAfterSimulation() {

@@ -82,6 +82,7 @@ public final class RangesTest extends Cases {
         DUE.is("addTask(1)", x.addTask(1), 0);
         DUE.is("addTask(10000)", x.addTask(10000), 1);
         DUE.is("tick(1): 1 of 1", x.tick(1), 1);
+        DUE.is("progress(0)", x.progress(0), 1000);
         DUE.is("tick(98): 9900 of 10000", x.tick(98), 0);
         DUE.is("tick(1): 10000 of 10000", x.tick(1), 1);
     }

@@ -5,14 +5,8 @@
 public final class TickTest extends Cases {
     public static void main(String[] args) {
         startingOrder();
-        noSpeculation();
-        naiveNeedsAGap();
-        lateNeedsASlowOne();
         lateTakesTheGreatestRemainingTime();
         leastProgressIsNotGreatestRemainingTime();
-        unknownRemainingTimeIsNotTheGreatest();
-        equalCandidates();
-        minimumAge();
         notOnItsOwnNode();
         cap();
         slowNode();
@@ -27,8 +21,6 @@ public final class TickTest extends Cases {
         bothFinishAtOnce();
         secondAttemptWins();
         firstAttemptLost();
-        allSlotsTaken();
-        twoHundredAttempts();
         DUE.end();
     }
 
@@ -57,38 +49,6 @@ public final class TickTest extends Cases {
         DUE.is("taskState(1)", x.taskState(1), 0);
     }
 
-    private static void noSpeculation() {
-        DUE.at("no speculation");
-        SpeculativeScheduler x = cluster(0, speeds(0, 100, 50), 1000, 10000);
-        x.tick(50);
-        DUE.is("straggler()", x.straggler(), -6);
-        DUE.is("attemptCount()", x.attemptCount(), 2);
-        x.setPolicy(1);
-        DUE.is("straggler() under NAIVE: 0 + 200 < 250", x.straggler(), 0);
-        x.setPolicy(2);
-        DUE.is("straggler() under LATE: 0 < 5 * 75", x.straggler(), 0);
-    }
-
-    private static void naiveNeedsAGap() {
-        DUE.at("naive gap");
-        SpeculativeScheduler x = cluster(1, speeds(0, 50), 1000, 1000);
-        x.tick(8);
-        DUE.is("straggler(): 0 + 200 is not less than 200", x.straggler(), -6);
-        x.tick(1);
-        DUE.is("straggler(): 0 + 200 is less than 225", x.straggler(), 0);
-    }
-
-    private static void lateNeedsASlowOne() {
-        DUE.at("late threshold");
-        SpeculativeScheduler x = cluster(2, speeds(30, 50), 1000, 1000);
-        x.tick(5);
-        DUE.is("straggler(): 3000 is not less than 40 * 75", x.straggler(), -6);
-        x.setThresholds(76, 50);
-        DUE.is("straggler(): 3000 is less than 40 * 76", x.straggler(), 0);
-        x.setThresholds(125, 50);
-        DUE.is("straggler(): attempt 0 has the longer way", x.straggler(), 0);
-    }
-
     private static void lateTakesTheGreatestRemainingTime() {
         DUE.at("greatest remaining time");
         SpeculativeScheduler x = cluster(2, speeds(100, 10, 5), 10000, 10000, 10000);
@@ -114,50 +74,6 @@ public final class TickTest extends Cases {
         DUE.is("straggler() under LATE", x.straggler(), 0);
         x.setPolicy(1);
         DUE.is("straggler() under NAIVE: 320 is less than 342", x.straggler(), 1);
-    }
-
-    private static void unknownRemainingTimeIsNotTheGreatest() {
-        DUE.at("remaining time above 1000000");
-        SpeculativeScheduler x = cluster(2, speeds(0, 1), 10000, 10000);
-        x.tick(10);
-        x.setSpeed(1, 0);
-        x.tick(500);
-        x.tick(500);
-        x.tick(90);
-        x.addNode(100, 1);
-        x.addTask(10000);
-        x.tick(1);
-        DUE.is("remainingTime(0)", x.remainingTime(0), 1000000);
-        DUE.is("remainingTime(1)", x.remainingTime(1), 1099899);
-        DUE.is("straggler()", x.straggler(), 1);
-    }
-
-    private static void equalCandidates() {
-        DUE.at("equal candidates");
-        SpeculativeScheduler x = cluster(2, speeds(5, 5, 100), 10000, 10000, 10000);
-        x.tick(4);
-        DUE.is("straggler() under LATE", x.straggler(), 0);
-        SpeculativeScheduler y = cluster(1, speeds(5, 5, 100), 1000, 1000, 1000);
-        y.tick(9);
-        DUE.is("straggler() under NAIVE", y.straggler(), 0);
-    }
-
-    private static void minimumAge() {
-        DUE.at("minimum age");
-        SpeculativeScheduler x = cluster(2, speeds(100, 10), 10000, 10000);
-        x.tick(2);
-        DUE.is("straggler() at 2", x.straggler(), -6);
-        x.tick(1);
-        DUE.is("straggler() at 3", x.straggler(), 1);
-        x.setLimits(2, 100);
-        x.tick(96);
-        DUE.is("straggler() at 99", x.straggler(), -6);
-        SpeculativeScheduler y = cluster(1, speeds(0, 100), 1000, 1000);
-        y.setLimits(2, 7);
-        y.tick(6);
-        DUE.is("straggler() under NAIVE at 6", y.straggler(), -6);
-        y.tick(1);
-        DUE.is("straggler() under NAIVE at 7", y.straggler(), 0);
     }
 
     private static void notOnItsOwnNode() {
@@ -387,49 +303,5 @@ public final class TickTest extends Cases {
         DUE.is("attemptNode(2)", x.attemptNode(2), 0);
         DUE.is("isSpeculative(2)", x.isSpeculative(2), 1);
         DUE.is("runningSpeculative()", x.runningSpeculative(), 2);
-    }
-
-    private static void allSlotsTaken() {
-        DUE.at("all 32 slots taken");
-        SpeculativeScheduler x = new SpeculativeScheduler();
-        for (int i = 0; i < 8; i++) x.addNode(10, 4);
-        for (int i = 0; i < 24; i++) x.addTask(1000);
-        x.setLimits(32, 0);
-        x.setThresholds(200, 1);
-        x.tick(1);
-        DUE.is("attemptCount()", x.attemptCount(), 24);
-        x.tick(1);
-        DUE.is("attemptCount()", x.attemptCount(), 32);
-        DUE.is("runningSpeculative()", x.runningSpeculative(), 8);
-        for (int i = 0; i < 8; i++) {
-            DUE.is("runningOn(" + i + ")", x.runningOn(i), 4);
-            DUE.is("attemptTask(" + (24 + i) + ")", x.attemptTask(24 + i), i);
-        }
-        DUE.is("tick(98)", x.tick(98), 24);
-        DUE.is("wastedWork(): 8 attempts of 99 ticks", x.wastedWork(), 7920);
-    }
-
-    private static void twoHundredAttempts() {
-        DUE.at("200 attempts");
-        SpeculativeScheduler x = new SpeculativeScheduler();
-        x.addNode(10, 3);
-        for (int i = 0; i < 3; i++) x.addTask(100);
-        for (int i = 0; i < 66; i++) {
-            x.tick(1);
-            x.failNode(0);
-            x.repairNode(0);
-        }
-        DUE.is("attemptCount()", x.attemptCount(), 198);
-        x.tick(1);
-        DUE.is("attemptCount()", x.attemptCount(), 200);
-        DUE.is("runningOn(0)", x.runningOn(0), 2);
-        DUE.is("attemptTask(199)", x.attemptTask(199), 1);
-        DUE.is("attemptTask(200)", x.attemptTask(200), -3);
-        DUE.is("taskState(2)", x.taskState(2), 0);
-        DUE.is("tick(500): the last two still work", x.tick(500), 2);
-        DUE.is("taskState(2)", x.taskState(2), 0);
-        DUE.is("wastedWork()", x.wastedWork(), 1980);
-        DUE.is("makespan()", x.makespan(), -6);
-        DUE.is("simulatedMakespan(2): has its own attempts", x.simulatedMakespan(2), 10);
     }
 }
