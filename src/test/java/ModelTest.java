@@ -1,15 +1,20 @@
 import java.util.Random;
 
-/** Random runs of calls with fixed seeds: each answer must be that of the model. */
+/** Random runs of 512 calls with fixed seeds: each answer must be that of the model. */
 public final class ModelTest {
-    private static final int RUNS = 400;
+    private static final int RUNS = 1600;
     private static final int CALLS = 512;
+    /** From here on a run only asks, so that what no call has asked for yet is seen too. */
+    private static final int CHANGING_CALLS = 400;
+    /** No step of a run makes more calls than this. */
+    private static final int CALLS_OF_A_STEP = 6;
     private static final Due DUE = new Due();
 
     private final Random random;
     private final int kind;
     private final SpeculativeScheduler x = new SpeculativeScheduler();
     private final Model m = new Model();
+    private int calls = 0;
 
     private ModelTest(int seed) {
         random = new Random(seed);
@@ -26,14 +31,14 @@ public final class ModelTest {
 
     private void run() {
         setUp();
-        for (int i = 40; i < CALLS && DUE.isClean(); i++) {
-            oneCall();
-        }
-        // What no call has asked for yet must agree at the end too.
-        for (int a = -1; a <= m.attempts.size() && DUE.isClean(); a++) {
-            askAttempt(a);
-        }
-        askAll();
+        while (calls <= CHANGING_CALLS - CALLS_OF_A_STEP && DUE.isClean()) changeOrAsk();
+        while (calls <= CALLS - CALLS_OF_A_STEP && DUE.isClean()) ask();
+        while (calls < CALLS && DUE.isClean()) is("time()", x.time(), m.time);
+    }
+
+    private void is(String call, int got, int want) {
+        calls++;
+        DUE.is("call " + calls + ", " + call, got, want);
     }
 
     private int below(int bound) {
@@ -58,114 +63,118 @@ public final class ModelTest {
         setPolicy(below(3));
     }
 
-    private void oneCall() {
+    private void changeOrAsk() {
         int pick = below(100);
-        if (kind == 3 && pick % 3 == 0) churn();
-        else if (pick < 30) tick();
-        else if (pick < 34) addNode();
-        else if (pick < 40) addTask();
-        else if (pick < 46) setSpeed();
-        else if (pick < 52) failNode(near(0, 8));
-        else if (pick < 60) repairNode(near(0, 8));
-        else if (pick < 63) setPolicy(near(0, 2));
-        else if (pick < 66) setLimits();
-        else if (pick < 69) setThresholds();
-        else if (pick < 71) simulate();
-        else if (pick < 84) askAttempt(near(0, Math.max(1, m.attempts.size())));
-        else if (pick < 90) askNode(near(0, 8));
-        else if (pick < 95) askTask(near(0, 24));
-        else askAll();
+        if (kind == 3 && pick % 2 == 0) churn();
+        else if (pick < 42) tick();
+        else if (pick < 46) addNode();
+        else if (pick < 52) addTask();
+        else if (pick < 58) setSpeed();
+        else if (pick < 64) failNode(near(0, 8));
+        else if (pick < 72) repairNode(near(0, 8));
+        else if (pick < 75) setPolicy(near(0, 2));
+        else if (pick < 78) setLimits();
+        else if (pick < 81) setThresholds();
+        else if (pick < 83) simulate();
+        else ask();
+    }
+
+    private void ask() {
+        int pick = below(100);
+        if (pick < 50) askAttempt(near(0, Math.max(1, m.attempts.size())));
+        else if (pick < 70) askNode(near(0, 8));
+        else if (pick < 90) askTask(near(0, 24));
+        else askCluster();
     }
 
     private void addNode() {
         int speed = kind == 1 ? near(0, 10) : near(0, 100);
-        int slots = near(1, 4);
-        DUE.is("addNode(" + speed + ", " + slots + ")", x.addNode(speed, slots), m.addNode(speed, slots));
+        int slots = kind == 3 ? 4 : near(1, 4);
+        is("addNode(" + speed + ", " + slots + ")", x.addNode(speed, slots), m.addNode(speed, slots));
     }
 
     private void addTask() {
         int work = kind >= 2 ? near(1, 10000) : near(1, 400);
-        DUE.is("addTask(" + work + ")", x.addTask(work), m.addTask(work));
+        is("addTask(" + work + ")", x.addTask(work), m.addTask(work));
     }
 
     private void setSpeed() {
         int node = near(0, 8);
         int speed = near(0, 100);
-        DUE.is("setSpeed(" + node + ", " + speed + ")", x.setSpeed(node, speed), m.setSpeed(node, speed));
+        is("setSpeed(" + node + ", " + speed + ")", x.setSpeed(node, speed), m.setSpeed(node, speed));
     }
 
     private void failNode(int node) {
-        DUE.is("failNode(" + node + ")", x.failNode(node), m.failNode(node));
+        is("failNode(" + node + ")", x.failNode(node), m.failNode(node));
     }
 
     /** Loses attempts again and again, so that some runs come to the 200th attempt. */
     private void churn() {
-        int node = below(8);
+        int node = below(Math.max(1, m.nodes.size()));
         failNode(node);
         repairNode(node);
-        tick();
+        is("tick(1)", x.tick(1), m.tick(1));
     }
 
     private void repairNode(int node) {
-        DUE.is("repairNode(" + node + ")", x.repairNode(node), m.repairNode(node));
+        is("repairNode(" + node + ")", x.repairNode(node), m.repairNode(node));
     }
 
     private void setPolicy(int policy) {
-        DUE.is("setPolicy(" + policy + ")", x.setPolicy(policy), m.setPolicy(policy));
+        is("setPolicy(" + policy + ")", x.setPolicy(policy), m.setPolicy(policy));
     }
 
     private void setLimits() {
         int cap = below(2) == 0 ? below(4) : near(0, 32);
         int age = below(2) == 0 ? below(5) : near(0, 100);
-        DUE.is("setLimits(" + cap + ", " + age + ")", x.setLimits(cap, age), m.setLimits(cap, age));
+        is("setLimits(" + cap + ", " + age + ")", x.setLimits(cap, age), m.setLimits(cap, age));
     }
 
     private void setThresholds() {
         int task = near(1, 200);
         int node = near(1, 200);
-        DUE.is("setThresholds(" + task + ", " + node + ")", x.setThresholds(task, node), m.setThresholds(task, node));
+        is("setThresholds(" + task + ", " + node + ")", x.setThresholds(task, node), m.setThresholds(task, node));
     }
 
     private void tick() {
         int ticks = below(60) == 0 ? near(1, 500) : below(5);
-        DUE.is("tick(" + ticks + ")", x.tick(ticks), m.tick(ticks));
-        DUE.is("straggler() after tick", x.straggler(), m.straggler());
-        DUE.is("attemptCount() after tick", x.attemptCount(), m.attempts.size());
+        is("tick(" + ticks + ")", x.tick(ticks), m.tick(ticks));
+        is("straggler() after tick", x.straggler(), m.straggler());
+        is("attemptCount() after tick", x.attemptCount(), m.attempts.size());
     }
 
     private void simulate() {
         int policy = near(0, 2);
-        DUE.is("simulatedMakespan(" + policy + ")", x.simulatedMakespan(policy), m.simulatedMakespan(policy));
+        is("simulatedMakespan(" + policy + ")", x.simulatedMakespan(policy), m.simulatedMakespan(policy));
     }
 
     private void askAttempt(int a) {
-        DUE.is("attemptTask(" + a + ")", x.attemptTask(a), m.attemptTask(a));
-        DUE.is("attemptNode(" + a + ")", x.attemptNode(a), m.attemptNode(a));
-        DUE.is("attemptState(" + a + ")", x.attemptState(a), m.attemptState(a));
-        DUE.is("isSpeculative(" + a + ")", x.isSpeculative(a), m.isSpeculative(a));
-        DUE.is("progress(" + a + ")", x.progress(a), m.progress(a));
-        DUE.is("remainingTime(" + a + ")", x.remainingTime(a), m.remainingTime(a));
+        is("attemptTask(" + a + ")", x.attemptTask(a), m.attemptTask(a));
+        is("attemptNode(" + a + ")", x.attemptNode(a), m.attemptNode(a));
+        is("attemptState(" + a + ")", x.attemptState(a), m.attemptState(a));
+        is("isSpeculative(" + a + ")", x.isSpeculative(a), m.isSpeculative(a));
+        is("progress(" + a + ")", x.progress(a), m.progress(a));
+        is("remainingTime(" + a + ")", x.remainingTime(a), m.remainingTime(a));
     }
 
     private void askNode(int n) {
-        DUE.is("nodeScore(" + n + ")", x.nodeScore(n), m.nodeScore(n));
-        DUE.is("isSlowNode(" + n + ")", x.isSlowNode(n), m.isSlowNode(n));
-        DUE.is("runningOn(" + n + ")", x.runningOn(n), m.runningOn(n));
+        is("nodeScore(" + n + ")", x.nodeScore(n), m.nodeScore(n));
+        is("isSlowNode(" + n + ")", x.isSlowNode(n), m.isSlowNode(n));
+        is("runningOn(" + n + ")", x.runningOn(n), m.runningOn(n));
     }
 
     private void askTask(int t) {
-        DUE.is("taskState(" + t + ")", x.taskState(t), m.taskState(t));
-        DUE.is("committedAttempt(" + t + ")", x.committedAttempt(t), m.committedAttempt(t));
-        DUE.is("finishTime(" + t + ")", x.finishTime(t), m.finishTime(t));
+        is("taskState(" + t + ")", x.taskState(t), m.taskState(t));
+        is("committedAttempt(" + t + ")", x.committedAttempt(t), m.committedAttempt(t));
+        is("finishTime(" + t + ")", x.finishTime(t), m.finishTime(t));
     }
 
-    private void askAll() {
-        for (int n = -1; n <= 8; n++) askNode(n);
-        for (int t = -1; t <= 24; t++) askTask(t);
-        DUE.is("time()", x.time(), m.time);
-        DUE.is("makespan()", x.makespan(), m.makespan());
-        DUE.is("straggler()", x.straggler(), m.straggler());
-        DUE.is("runningSpeculative()", x.runningSpeculative(), m.runningSpeculative());
-        DUE.is("wastedWork()", x.wastedWork(), m.wastedWork());
+    private void askCluster() {
+        is("time()", x.time(), m.time);
+        is("makespan()", x.makespan(), m.makespan());
+        is("attemptCount()", x.attemptCount(), m.attempts.size());
+        is("straggler()", x.straggler(), m.straggler());
+        is("runningSpeculative()", x.runningSpeculative(), m.runningSpeculative());
+        is("wastedWork()", x.wastedWork(), m.wastedWork());
     }
 }
